@@ -25,11 +25,14 @@ public final class QueryGateway {
     private final Answer unharmed;
 
     public QueryGateway() {
-        graph = new Graph();
-        query = new Query();
-        plan = new Plan(graph, query);
-        answer = new Answer(graph, query, plan);
-        unharmed = new Answer(graph, query, plan);
+        Graph fields = new Graph();
+        Query tree = new Query();
+        Plan services = new Plan(fields, tree);
+        graph = fields;
+        query = tree;
+        plan = services;
+        answer = new Answer(fields, tree, services);
+        unharmed = new Answer(fields, tree, services);
     }
 
     // ---- types, fields, services

@@ -325,6 +325,7 @@ public final class ModelTest {
     }
 
     private final Random random;
+    private int keys;
     private final QueryGateway gateway = new QueryGateway();
     private final Model model = new Model();
 
@@ -341,7 +342,7 @@ public final class ModelTest {
 
     /** Mostly within 0 to bound - 1, now and then a little or far outside. */
     private int draw(int bound) {
-        int kind = random.nextInt(60);
+        int kind = random.nextInt(120);
         if (kind == 0) {
             return random.nextInt(2) == 0 ? -2 : -1;
         }
@@ -354,16 +355,22 @@ public final class ModelTest {
         return bound <= 0 ? 0 : random.nextInt(bound);
     }
 
+    /** In most runs from a few keys, so that many entities have values for what is asked. */
+    private int drawKey() {
+        return draw(keys);
+    }
+
     private void run(int run) {
+        keys = run % 3 == 0 ? 20 : 2 + random.nextInt(4);
         int ownership = 1 + random.nextInt(8);
         int requiredOf10 = random.nextInt(6);
-        int fieldsAtFirst = random.nextInt(24);
+        int fieldsAtFirst = run % 4 == 0 ? random.nextInt(8) : 12 + random.nextInt(20);
         for (int call = 0; call < CALLS; call++) {
             if (call < fieldsAtFirst) {
                 addField(run, requiredOf10);
-            } else if (call < fieldsAtFirst * (1 + ownership / 2)) {
+            } else if (call < Math.min(200, fieldsAtFirst * (1 + ownership))) {
                 own(run);
-            } else if (call < 250) {
+            } else if (call < 300) {
                 change(run, requiredOf10);
             } else if (random.nextInt(3) == 0) {
                 change(run, requiredOf10);
@@ -390,7 +397,7 @@ public final class ModelTest {
         int service = draw(4);
         int type = draw(4);
         int field = draw(type >= 0 && type < 4 ? model.types.get(type).size() : 8);
-        boolean belongs = random.nextInt(6) != 0;
+        boolean belongs = random.nextInt(8) != 0;
         same(run, "own(" + service + ", " + type + ", " + field + ", " + belongs + ")",
                 () -> gateway.own(service, type, field, belongs) ? 1 : 0,
                 () -> model.own(service, type, field, belongs));
@@ -398,9 +405,9 @@ public final class ModelTest {
 
     private void set(int run) {
         int type = draw(4);
-        int key = draw(20);
+        int key = drawKey();
         int field = draw(type >= 0 && type < 4 ? model.types.get(type).size() : 8);
-        int value = random.nextInt(12) == 0 ? -1 : draw(random.nextInt(10) == 0 ? 100 : 20);
+        int value = random.nextInt(12) == 0 ? -1 : draw(random.nextInt(10) == 0 ? 100 : keys);
         same(run, "set(" + type + ", " + key + ", " + field + ", " + value + ")",
                 () -> gateway.set(type, key, field, value), () -> model.set(type, key, field, value));
     }
@@ -439,7 +446,7 @@ public final class ModelTest {
             boolean failed = random.nextInt(3) == 0;
             same(run, "fail(" + service + ", " + failed + ")",
                     () -> gateway.fail(service, failed) ? 1 : 0, () -> model.fail(service, failed));
-        } else if (kind < 82) {
+        } else if (kind < 81) {
             int type = draw(4);
             same(run, "begin(" + type + ")", () -> gateway.begin(type), () -> model.begin(type));
         } else {
@@ -448,10 +455,10 @@ public final class ModelTest {
     }
 
     private void ask(int run) {
-        int key = draw(20);
-        int last = draw(20);
+        int key = drawKey();
+        int last = Math.max(key, draw(20));
         int node = draw(model.nodes.size());
-        switch (random.nextInt(11)) {
+        switch (random.nextInt(12)) {
             case 0 -> same(run, "nodes()", gateway::nodes, model.nodes::size);
             case 1 -> same(run, "typeOf(" + node + ")", () -> gateway.typeOf(node), () -> {
                 Model.index(Model.in(node, model.nodes.size()));
@@ -468,7 +475,9 @@ public final class ModelTest {
             case 7 -> same(run, "faults(" + key + ")", () -> gateway.faults(key), () -> model.faults(key));
             case 8 -> same(run, "loaded(" + node + ", " + key + ", " + last + ")",
                     () -> gateway.loaded(node, key, last), () -> model.loaded(node, key, last));
-            case 9 -> same(run, "harmed()", gateway::harmed, model::harmed);
+            case 9 -> same(run, "loaded(" + node + ", " + last + ", " + key + ")",
+                    () -> gateway.loaded(node, last, key), () -> model.loaded(node, last, key));
+            case 10 -> same(run, "harmed()", gateway::harmed, model::harmed);
             default -> same(run, "least(" + node + ")", () -> gateway.least(node), () -> model.least(node));
         }
     }

@@ -355,6 +355,11 @@ public final class PromiseTest {
         Check.same("13 below a missing one", x.value(0, 4), -1);
         Check.same("13 beside it", x.value(0, 0), 50);
         x.fail(1, false);
+        x.set(1, 7, 0, -1);
+        Check.same("13 missing for one of two below", x.value(0, 1), -1);
+        Check.same("13 has a value, but is below a missing one", x.value(0, 3), -1);
+        Check.same("13 two levels below a missing one", x.value(0, 4), -1);
+        x.set(1, 7, 0, 60);
         x.set(0, 0, 0, -1);
         Check.same("13 all of a missing answer", x.value(0, 2), -1);
         Check.throwsExactly(ARGUMENT, "13 key 20", () -> x.value(20, 0));
@@ -434,6 +439,8 @@ public final class PromiseTest {
         Check.same("16 one key", x.loaded(0, 2, 2), 1);
         Check.same("16 the last key", x.loaded(0, 19, 19), 1);
         Check.same("16 none", x.loaded(0, 3, 18), 0);
+        x.set(0, 10, 1, 7);
+        Check.same("16 three equal", x.loaded(0, 0, 18), 2);
         x.node(0, 0);
         Check.same("16 missing for the required one below", x.loaded(0, 0, 19), 0);
         x.set(1, 7, 0, 5);
